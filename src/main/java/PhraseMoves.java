@@ -296,7 +296,7 @@ public final class PhraseMoves {
         }
 
         void addPlacesWith(int set, int[] text) {
-            for (int place = 0; place < PLACES && place < text.length; place++) {
+            for (int place = 0; place < PLACES; place++) {
                 if ((text[place] & set) != 0) {
                     add(place, place);
                 }
@@ -529,6 +529,10 @@ public final class PhraseMoves {
         private final int[] sets;
         private int size;
         private boolean settled;
+        /** For each SLOT the PLACES that have a TERM of its SET, by rising PLACES. */
+        private final int[][] places;
+        /** How many these are. */
+        private final int[] placesOf;
         /** The PLACES of the CHOICE that a search is making. */
         private final int[] tried;
         private final int[] firstChoice;
@@ -543,6 +547,8 @@ public final class PhraseMoves {
             sets = new int[MOST_SLOTS];
             size = 0;
             settled = false;
+            places = new int[MOST_SLOTS][PLACES];
+            placesOf = new int[MOST_SLOTS];
             tried = new int[MOST_SLOTS];
             firstChoice = new int[MOST_SLOTS];
             counts = new int[MOST_MOVED + 1];
@@ -627,27 +633,50 @@ public final class PhraseMoves {
             shortFrom = 0;
             shortTo = PLACES;
             if (size > 0) {
-                searchMoved(0, 0, text);
-                searchShortest(0, PLACES, -1, text);
+                findPlaces(text);
+                searchMoved(0, 0, -MOST_OFFSET, PLACES - 1);
+                searchShortest(0, PLACES, -1);
             }
             settled = true;
         }
 
+        private void findPlaces(int[] text) {
+            for (int slot = 0; slot < size; slot++) {
+                int found = 0;
+                for (int place = 0; place < PLACES; place++) {
+                    if ((text[place] & sets[slot]) != 0) {
+                        places[slot][found] = place;
+                        found++;
+                    }
+                }
+                placesOf[slot] = found;
+            }
+        }
+
         /**
-         * Tries the PLACES of this SLOT and those behind it. One more SLOT never makes a CHOICE
-         * less MOVED, so what is beyond all that is ever asked for is left at once.
+         * Tries the PLACES of this SLOT and of those behind it. What the SLOTS before it have, PLACE
+         * less OFFSET, is MOVED least by every m of the middle, low .. high, and one more SLOT adds
+         * how far it is from the middle. So it never makes a CHOICE less MOVED, and what is beyond
+         * all that is ever asked for is left at once.
          */
-        private void searchMoved(int slot, int moved, int[] text) {
+        private void searchMoved(int slot, int moved, int low, int high) {
             if (slot >= size) {
                 noteChoice(moved);
                 return;
             }
-            for (int place = 0; place < PLACES; place++) {
-                if (fits(slot, place, text)) {
+            for (int i = 0; i < placesOf[slot]; i++) {
+                int place = places[slot][i];
+                int value = place - offsets[slot];
+                int nearest = Math.max(low, Math.min(high, value));
+                int movedNow = moved + Math.abs(value - nearest);
+                if (movedNow <= Math.max(MOST_SLOP, lowestMoved) && isFree(slot, place)) {
                     tried[slot] = place;
-                    int movedNow = movedOfTried(slot + 1);
-                    if (movedNow <= Math.max(MOST_SLOP, lowestMoved)) {
-                        searchMoved(slot + 1, movedNow, text);
+                    if (slot == 1) {
+                        // The middle of two is all that lies between them.
+                        searchMoved(slot + 1, movedNow, Math.min(low, value), Math.max(high, value));
+                    } else {
+                        // The middle of one or three is one of them; that of four is not used.
+                        searchMoved(slot + 1, movedNow, nearest, nearest);
                     }
                 }
             }
@@ -665,18 +694,20 @@ public final class PhraseMoves {
             }
         }
 
-        private void searchShortest(int slot, int low, int high, int[] text) {
+        /** One more SLOT never makes the INTERVAL shorter, nor an equally long one begin earlier. */
+        private void searchShortest(int slot, int low, int high) {
             if (slot >= size) {
                 shortFrom = low;
                 shortTo = high;
                 return;
             }
-            for (int place = 0; place < PLACES; place++) {
+            for (int i = 0; i < placesOf[slot]; i++) {
+                int place = places[slot][i];
                 int lowNow = Math.min(low, place);
                 int highNow = Math.max(high, place);
-                if (isShorter(lowNow, highNow) && fits(slot, place, text)) {
+                if (isShorter(lowNow, highNow) && isFree(slot, place)) {
                     tried[slot] = place;
-                    searchShortest(slot + 1, lowNow, highNow, text);
+                    searchShortest(slot + 1, lowNow, highNow);
                 }
             }
         }
@@ -687,33 +718,13 @@ public final class PhraseMoves {
             return width < widthSoFar || (width == widthSoFar && low < shortFrom);
         }
 
-        private boolean fits(int slot, int place, int[] text) {
-            if (!has(slot) || !isPlace(place) || (text[place] & sets[slot]) == 0) {
-                return false;
-            }
+        private boolean isFree(int slot, int place) {
             for (int other = 0; other < slot; other++) {
                 if (tried[other] == place && (sets[other] & sets[slot]) != 0) {
                     return false;
                 }
             }
             return true;
-        }
-
-        /** The least sum is reached where m is PLACE less OFFSET of one of the SLOTS. */
-        private int movedOfTried(int slots) {
-            int lowest = NO_CHOICE;
-            for (int slot = 0; slot < slots && slot < MOST_SLOTS; slot++) {
-                lowest = Math.min(lowest, farFrom(tried[slot] - offsets[slot], slots));
-            }
-            return lowest;
-        }
-
-        private int farFrom(int m, int slots) {
-            int sum = 0;
-            for (int slot = 0; slot < slots && slot < MOST_SLOTS; slot++) {
-                sum += Math.abs(tried[slot] - offsets[slot] - m);
-            }
-            return sum;
         }
     }
 }

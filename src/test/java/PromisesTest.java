@@ -279,6 +279,14 @@ public final class PromisesTest {
         row("either where the ends are the same", x, 7, 2, 2, 4, 4);
         x.ask(1, 4, 4, 0);
         row("either of the same", x, 8, 0, 2, 3, 4);
+        PhraseMoves y = new PhraseMoves();
+        y.put(28, 1);
+        y.put(29, 2);
+        y.ask(0, 0, 0, 0);
+        y.ask(0, 0, 0, 1);
+        y.ask(2, 0, 1, 0);
+        y.ask(1, 2, 1, 0);
+        row("either where the last place is held", y, 3, 29, 29);
     }
 
     private static void behindRows() {
@@ -703,6 +711,16 @@ public final class PromisesTest {
         x.slot(0, 4);
         // -9 and 10
         due(14, "least() with an offset", x.least(), 19);
+        // 10, 4, 5: from 4 to 10
+        PhraseMoves z = new PhraseMoves();
+        z.put(10, 1);
+        z.put(4, 2);
+        z.put(5, 4);
+        z.slot(0, 1);
+        z.slot(0, 2);
+        z.slot(0, 4);
+        due(13, "weight(9) as the first call", z.weight(9), 360);
+        due(14, "least() of a falling phrase", z.least(), 6);
         // The greatest there is: -9, -9, 29, 29
         PhraseMoves y = new PhraseMoves();
         y.put(0, 3);
@@ -809,6 +827,23 @@ public final class PromisesTest {
         due(15, "chosen(1) of the long one", y.chosen(1), 9);
         due(17, "shortest(0) beside it", y.shortest(0), 12);
         due(17, "shortest(1) beside it", y.shortest(1), 14);
+        // One with a lesser begin comes later in the order of places, and is longer.
+        PhraseMoves v = text(2, 0, 0, 0, 0, 1, 2, 0, 0, 1);
+        v.slot(0, 1);
+        v.slot(0, 2);
+        due(17, "shortest(0) before a longer one", v.shortest(0), 5);
+        due(17, "shortest(1) before a longer one", v.shortest(1), 6);
+        // A long one where a short one was.
+        PhraseMoves w = new PhraseMoves();
+        w.put(20, 1);
+        w.put(21, 2);
+        w.slot(0, 1);
+        w.slot(0, 2);
+        due(17, "shortest(0) of a short one", w.shortest(0), 20);
+        w.put(20, 0);
+        w.put(0, 1);
+        due(17, "shortest(0) of a long one", w.shortest(0), 0);
+        due(17, "shortest(1) of a long one", w.shortest(1), 21);
         // The whole text.
         PhraseMoves z = new PhraseMoves();
         z.put(0, 1);
