@@ -3,21 +3,19 @@ import java.lang.management.ManagementFactory;
 
 /**
  * The dearest runs of 512 calls: a full text, 30 asks joined out of one another and four slots that
- * fit everywhere, with a change ahead of every answer. They make hardly any objects (the room of a
- * run is bounded) and come to an end in seconds.
+ * fit everywhere, with a change ahead of every answer. They make hardly any objects, as the room of
+ * a run is bounded.
  */
 public final class RoomTest {
     private static final int CALLS = 512;
     /** Some 1,600 ints and 70 objects and arrays for one PhraseMoves, far below the room of a run. */
     private static final long MOST_BYTES = 32_000;
-    private static final long MOST_SECONDS = 60;
 
     public static void main(String[] args) {
         ThreadMXBean threads = (ThreadMXBean) ManagementFactory.getThreadMXBean();
         play(true);
         play(false);
         long thread = Thread.currentThread().getId();
-        long begun = System.nanoTime();
         boolean fits = true;
         for (boolean phrase : new boolean[] {true, false}) {
             long before = threads.getThreadAllocatedBytes(thread);
@@ -27,11 +25,6 @@ public final class RoomTest {
                 fits = false;
                 System.out.println("a run made " + bytes + " bytes, at most " + MOST_BYTES + " are due");
             }
-        }
-        long seconds = (System.nanoTime() - begun) / 1_000_000_000L;
-        if (seconds > MOST_SECONDS) {
-            fits = false;
-            System.out.println("the runs took " + seconds + " seconds");
         }
         System.out.println(fits ? "the dearest runs fit into their room" : "the dearest runs are too dear");
         if (!fits) {
