@@ -535,6 +535,13 @@ public final class AskEdgesTest {
             x.askRow(4, BOTH, 1, 0, 3);
             x.askRow(5, BOTH, 1, 0, 4, 0, 3);
         });
+        Calls.test("4 BOTH: n PLACES at most in all: at the end of the TEXT", x -> {
+            x.put(28, 1);
+            x.put(29, 2);
+            x.terms(2).askRow(2, BOTH, 0, 1, 1);
+            x.askRow(3, BOTH, 0, 1, 2, 28, 29);
+            x.askRow(4, BOTH, 1, 0, 2, 28, 29);
+        });
         Calls.test("4 BOTH: n PLACES at most in all: 30", x -> {
             x.put(0, 2);
             x.put(29, 1);

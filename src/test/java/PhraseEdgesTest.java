@@ -589,6 +589,28 @@ public final class PhraseEdgesTest {
             x.shortest(0).is(28);
             x.shortest(1).is(29);
         });
+        Calls.test("17: a longer one that begins before", x -> {
+            // A B at 5 .. 6; the B at 0 with the A at 9, which comes last, is far longer.
+            x.put(0, 2);
+            x.put(5, 1);
+            x.put(6, 2);
+            x.put(9, 1);
+            x.slot(0, 1);
+            x.slot(0, 2);
+            x.shortest(0).is(5);
+            x.shortest(1).is(6);
+        });
+        Calls.test("17: a long one where a short one at the end of the TEXT was", x -> {
+            x.put(28, 1);
+            x.put(29, 2);
+            x.slot(0, 1);
+            x.slot(0, 2);
+            x.shortest(0).is(28);
+            x.put(28, 0);
+            x.put(0, 1);
+            x.shortest(0).is(0);
+            x.shortest(1).is(29);
+        });
         Calls.test("17: some CHOICE: different PLACES where a TERM is in common", x -> {
             x.text(3, 3);
             x.slot(0, 1);
