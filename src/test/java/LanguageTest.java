@@ -74,6 +74,10 @@ public final class LanguageTest {
         }
     }
 
+    private static boolean isOfFace(String name) {
+        return FACE.stream().anyMatch(method -> method.contains(" " + name + "("));
+    }
+
     private static String signature(Method method) {
         StringBuilder types = new StringBuilder();
         for (Class<?> type : method.getParameterTypes()) {
@@ -91,6 +95,7 @@ public final class LanguageTest {
             need(one.getDeclaredFields().length <= 20, one + " has at most twenty fields");
             for (Method method : one.getDeclaredMethods()) {
                 need(method.getParameterCount() <= 7, method + " has at most seven parameters");
+                need(!isOfFace(method.getName()), method + " has a name of its own");
             }
             for (Field field : one.getDeclaredFields()) {
                 need(!Modifier.isStatic(field.getModifiers()) || Modifier.isFinal(field.getModifiers()),
